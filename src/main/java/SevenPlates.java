@@ -494,19 +494,18 @@ public final class SevenPlates {
             return thing == NONE ? 0 : use(guest, thing);
         }
 
-        private boolean isAsSeen(int[] sights) {
+        /**
+         * How much must still be eaten until all is as seen, or NONE if less is left than was seen: as a row
+         * fills nothing again, no guest more can mend that.
+         */
+        private int stillToEat(int[] sights) {
+            int sum = 0;
             for (int thing = 0; thing < table.things; thing++) {
-                if (sights[thing] != NONE && sights[thing] != left[thing]) return false;
+                if (sights[thing] == NONE) continue;
+                if (left[thing] < sights[thing]) return NONE;
+                sum += left[thing] - sights[thing];
             }
-            return true;
-        }
-
-        /** Less is left than was seen: as a row fills nothing again, no guest more can mend that. */
-        private boolean isSpoilt(int[] sights) {
-            for (int thing = 0; thing < table.things; thing++) {
-                if (left[thing] < sights[thing]) return true;
-            }
-            return false;
+            return sum;
         }
 
         /** What is left of all things, as one number with a digit for each. */
@@ -625,9 +624,9 @@ public final class SevenPlates {
 
         /** The row so far has so many guests, these as bits; no row is longer than most. */
         private void walk(int length, int who, int most) {
-            if (course.isSpoilt(sights)) return;
-            if (course.isAsSeen(sights)) note(length, who);
-            if (length >= most) return;
+            int still = course.stillToEat(sights);
+            if (still == 0) note(length, who);
+            if (still == NONE || length >= most) return;
             for (int guest = 0; guest < MOST_GUESTS; guest++) {
                 int thing = table.hasGuest(guest) ? course.choice(guest) : NONE;
                 if (thing == NONE) continue;
@@ -706,10 +705,11 @@ public final class SevenPlates {
             reduce();
         }
 
-        /** How often, of all times, so many guests more leave what was seen, a told one (-1: anybody) first. */
+        /** How often, of all times, so many guests more leave what was seen; told (-1: anybody) is the first. */
         private long ways(int more, int told) {
-            if (course.isSpoilt(table.sight)) return 0;
-            if (more <= 0) return course.isAsSeen(table.sight) ? 1 : 0;
+            int still = course.stillToEat(table.sight);
+            if (still == NONE) return 0;
+            if (more <= 0) return still == 0 ? 1 : 0;
             long sum = 0;
             for (int guest = 0; guest < MOST_GUESTS; guest++) {
                 if (!table.hasGuest(guest) || (told != -1 && told != guest)) continue;
@@ -797,19 +797,15 @@ public final class SevenPlates {
             this.course = course;
         }
 
-        /** Two guests leave the same of all things just if they take as much from the same. */
-        private int alone(int guest) {
-            int thing = course.choice(guest);
-            return thing == NONE ? NONE : 10 * thing + course.bite(guest, thing);
-        }
-
         private boolean areAlike(int lesser, int greater) {
             return table.hasGuest(lesser) && table.hasGuest(greater) && doing[lesser] == doing[greater];
         }
 
         private int howMany() {
+            // Two guests leave the same of all things just if they take as much from the same.
             for (int guest = 0; guest < MOST_GUESTS; guest++) {
-                if (table.hasGuest(guest)) doing[guest] = alone(guest);
+                int thing = table.hasGuest(guest) ? course.choice(guest) : NONE;
+                doing[guest] = thing == NONE ? NONE : 10 * thing + course.bite(guest, thing);
             }
             int count = 0;
             for (int lesser = 0; lesser < MOST_GUESTS; lesser++) {

@@ -38,7 +38,9 @@ public final class EveningsTest {
         // A: 1 9>6, A: 1 6>3, A: 1 3>0, A: the nearest left is 0 9>6
         Check.tell(x, "AA.A1");
         c.due("9 came: the same one thrice", x.judge(2), 3);
+        c.due("9 asked again", x.judge(2), 3);
         c.due("9 eaten", x.judge(3), 9);
+        c.due("9 asked again", x.judge(3), 9);
         c.due("9 no part", x.judge(0), -6);
         c.due("9 no why", x.judge(1), -6);
         x.thing(1, 3, 1);

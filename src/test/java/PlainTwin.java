@@ -370,7 +370,7 @@ final class PlainTwin {
     }
 
     /** What a text of guests leaves, those who find nothing being passed over. */
-    private int[] played(String text) {
+    int[] played(String text) {
         String left = text;
         for (;;) {
             Outcome o = play(left, world.things);

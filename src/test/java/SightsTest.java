@@ -9,6 +9,7 @@ public final class SightsTest {
         rows();
         sureAndMaybe();
         firstRow();
+        rowsOfOthers();
         rowsRefused();
         cup();
         look();
@@ -125,6 +126,28 @@ public final class SightsTest {
         for (int place = 0; place < 6; place++) c.due("17 place " + place, x.rows(6, 4 + place), 0);
     }
 
+    private static void rowsOfOthers() {
+        SevenPlates x = new SevenPlates();
+        x.things(3);
+        x.guest(1, 0, 1, 2, 1);
+        x.guest(3, 2, 3, 2, 1);
+        // both take what is next: of three things the guests at places 0, 1, 2 (and 3, 4, 5) use 0, 1, 2
+        c.due("17 A is not there", x.rows(3, 0), 15);
+        c.due("17 nor C", x.rows(3, 3), 10);
+        x.seen(2, 6);
+        c.due("17 the third was D: four, and with more behind him", x.rows(3, 0), 4);
+        c.due("17 with more behind him", x.rows(5, 0), 4 + 8 + 16);
+        c.due("17 B, the first by guests", x.rows(5, 4), 1);
+        c.due("17 B", x.rows(5, 5), 1);
+        c.due("17 D", x.rows(5, 6), 3);
+        c.due("17 sure", x.rows(5, 2), 8);
+        c.due("18 who was third", x.cup(2, 5), 8);
+        c.due("18 who was first", x.cup(0, 5), 10);
+        x.seen(1, 8);
+        c.due("17 the second was B", x.rows(3, 0), 2);
+        c.due("20 the second was B, the third D", x.belief(3, -1, 1), 4);
+    }
+
     private static void rowsRefused() {
         SevenPlates x = three();
         c.due("17 m 7", x.rows(7, 0), -2);
@@ -182,6 +205,10 @@ public final class SightsTest {
         // none, A, B, C; of 1 is left 9 8 7 6
         c.due("19 thing 1 tells all", x.look(1, 0), 1);
         c.due("19 one is left", x.look(1, 1), 1);
+        x.thing(1, 1, 1);
+        // none, A, B, C; of 1 is left 1 0 0 0
+        c.due("19 no thing tells them", x.look(1, 1), 3);
+        c.due("19 but 1 tells more than 0", x.look(1, 0), 1);
     }
 
     private static void fraction(String what, SevenPlates x, int m, int guest, long upper, long lower) {
@@ -195,6 +222,7 @@ public final class SightsTest {
         fraction("20 none is first", x, 0, 0, 0, 1);
         fraction("20 no sights", x, 6, -1, 1, 1);
         fraction("20 first by often", x, 3, 1, 1, 3);
+        fraction("20 two of six", x, 1, 1, 1, 3);
         x.seen(0, 6);
         fraction("20 none comes, other is left", x, 0, -1, 0, 1);
         fraction("20 C comes", x, 1, -1, 1, 2);

@@ -6,6 +6,8 @@ public final class TablesTest {
         alike();
         lay();
         layTwo();
+        layByAnyNumber();
+        layThree();
         hide();
         trace();
         lock();
@@ -123,6 +125,52 @@ public final class TablesTest {
         laid("22 A is as B", x, -6, -6);
     }
 
+    private static void layByAnyNumber() {
+        SevenPlates x = new SevenPlates();
+        x.things(2);
+        for (int t = 0; t < 2; t++) x.thing(t, 1, 8);
+        x.guest(0, 0, 8, 0, 1);
+        x.guest(1, 0, 9, 0, 1);
+        laid("22 by 9 alone", x, 1, 1);
+        x.guest(2, 1, 8, 0, 1);
+        x.guest(3, 1, 9, 0, 1);
+        laid("22 by 9 and 9 alone", x, 2, 3);
+
+        // A and B take all of 0, which lies between them, unless nothing is left of it
+        x.things(4);
+        x.thing(0, 0, 5);
+        x.thing(1, 0, 3);
+        x.thing(2, 0, 8);
+        x.thing(3, 0, 0);
+        x.guest(0, 4, 9, 0, 1);
+        x.guest(1, 6, 9, 0, 1);
+        x.leave(2);
+        x.leave(3);
+        laid("22 by 0 alone", x, 1, 1);
+        x.thing(3, 1, 8);
+        x.guest(2, 0, 8, 0, 1);
+        x.guest(3, 0, 9, 0, 1);
+        laid("22 by 0 and 9", x, 2, 9);
+    }
+
+    /** 0 must be empty (else A and B take as much of it), 1 have 7 (for C and D), 2 have something (for A). */
+    private static void layThree() {
+        SevenPlates x = new SevenPlates();
+        x.things(3);
+        x.thing(1, 0, 3);
+        x.thing(2, 0, 1);
+        x.thing(0, 1, 2);
+        x.thing(1, 1, 2);
+        x.thing(2, 1, 0);
+        x.guest(0, 0, 4, 0, 1);
+        x.guest(1, 0, 4, 3, 1);
+        x.guest(2, 0, 8, 2, 1);
+        x.guest(3, 0, 6, 2, 1);
+        laid("22 three are too many", x, -6, -6);
+        x.thing(2, 1, 1);
+        laid("22 two will do", x, 2, 3);
+    }
+
     private static SevenPlates pair() {
         SevenPlates x = new SevenPlates();
         x.things(3);
@@ -143,6 +191,12 @@ public final class TablesTest {
         c.due("23 more than there is now", x.hide(), 4);
         Check.tell(x, "AB");
         c.due("23 two things", x.hide(), 3);
+        x.things(7);
+        x.guest(2, 0, 1, 2, 1);
+        Check.tell(x, "CCCCCCC");
+        c.due("23 all seven", x.hide(), 127);
+        x.leave(2);
+        x.things(3);
         Check.tell(x, "E");
         c.due("23 no", x.hide(), -5);
         Check.tell(x, "C");
@@ -213,6 +267,9 @@ public final class TablesTest {
         c.due("25 as it is", x.lock(-1, 2), 3);
         c.due("25 locked already", x.lock(1, 2), 3);
         c.due("25 both", x.lock(0, 1), 0);
+        x.thing(0, 3, 0);
+        c.due("25 what is locked stays so", x.lock(1, 1), 0);
+        x.thing(0, 3, 9);
         c.due("25 both, none comes", x.lock(0, 0), 1);
         x.thing(0, 1, 2);
         // AA: 0, AB: 0, BA can not be
@@ -228,6 +285,18 @@ public final class TablesTest {
         // five ones over four things: 8 over 3
         c.due("25 of five, four guests", x.lock(-1, 5), 56);
         c.due("25 0 is locked: A takes 1 as B", x.lock(0, 5), 21);
+        for (int g = 0; g < 4; g++) x.guest(g, 0, 1 + g, 2, 1);
+        // who takes what is next, by four hungers: each of five things tells who was there
+        c.due("25 as many as there are rows", x.lock(-1, 5), 1024);
+        c.due("25 and again", x.lock(6, 5), 1024);
+        c.due("25 of four", x.lock(3, 4), 256);
+        x.things(2);
+        x.thing(0, 3, 1);
+        x.guest(0, 0, 9, 0, 1);
+        x.guest(1, 1, 9, 0, 1);
+        x.leave(2);
+        x.leave(3);
+        c.due("25 none and 9, or 1 and none", x.lock(-1, 1), 2);
     }
 
     private static void year() {
@@ -294,7 +363,7 @@ public final class TablesTest {
         x.image(0);
         x.things(7);
         x.leave(1);
-        x.guest(2, 1, 1, 1, 1);
+        x.guest(2, 1, 1, 2, 1);
         x.guest(3, 1, 1, 1, 1);
         x.seen(6, 1);
         Check.tell(x, "CDC");

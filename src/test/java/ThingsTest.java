@@ -43,6 +43,7 @@ public final class ThingsTest {
         x.thing(1, 1, 4);
         x.thing(1, 2, 1);
         x.thing(6, 1, 2);
+        x.thing(0, 0, 5);
         x.seen(1, 3);
         Check.tell(x, "C6");
         c.due("2 things(0)", x.things(0), -2);
@@ -53,6 +54,7 @@ public final class ThingsTest {
         c.due("2 things(6)", x.things(6), 7);
         c.due("2 things now", x.told(1), 6);
         c.due("2 size anew", x.told(20), 1);
+        c.due("2 size anew, of 0", x.told(10), 0);
         c.due("2 laid anew", x.told(21), 9);
         c.due("2 unlocked", x.told(22), 0);
         c.due("2 left anew", x.told(53), 9);

@@ -12,20 +12,26 @@ public final class TwinTest {
     private static SevenPlates x;
     private static PlainTwin twin;
     private static Random draw;
+    private static int calls;
     private static final Check check = new Check();
 
     public static void main(String[] args) {
-        for (int run = 0; run < 400; run++) {
+        for (int run = 0; run < 600; run++) {
             draw = new Random(run);
             x = new SevenPlates();
             twin = new PlainTwin();
+            calls = 0;
             int longest = run % 20 == 0 ? 6 : 4;
             if (run % 5 != 0) furnish(run);
-            for (int i = 0; i < 300; i++) {
+            while (calls < 360) {
+                if (draw.nextInt(25) == 0) watch(run, longest);
                 String name = drawName();
                 both(run, name, drawArguments(name, longest));
             }
-            for (int what = -1; what <= 405; what++) both(run, "told", what);
+            for (int what = -1; what <= 80; what++) both(run, "told", what);
+            for (int g = 1; g <= 4; g++) {
+                for (int what = 0; what <= 4; what++) both(run, "told", 100 * g + what);
+            }
         }
         check.end();
     }
@@ -38,11 +44,34 @@ public final class TwinTest {
         }
     }
 
+    /** Sights that a drawn row really leaves, and what is asked of them. */
+    private static void watch(int run, int longest) {
+        String text = "";
+        for (int i = draw.nextInt(longest + 1); i > 0; i--) text += (char) aGuestSign();
+        int[] left = twin.played(text);
+        both(run, "forget");
+        for (int t = 0; t < left.length; t++) {
+            if (draw.nextInt(3) > 0) both(run, "seen", t, left[t]);
+        }
+        both(run, "rows", longest, draw.nextInt(10));
+        both(run, "rows", longest, draw.nextInt(10));
+        both(run, "cup", draw.nextInt(left.length), longest);
+        both(run, "look", longest, draw.nextInt(2));
+        both(run, "belief", Math.min(longest, text.length()), draw.nextInt(5) - 1, draw.nextInt(2));
+    }
+
+    /** No object is asked more often than the document allows. */
     private static void both(int run, String name, int... a) {
+        if (calls >= 512) return;
+        calls++;
         long want = twin.call(name, a);
         StringBuilder call = new StringBuilder("run " + run + ": " + name + "(");
         for (int i = 0; i < a.length; i++) call.append(i == 0 ? "" : ", ").append(a[i]);
         check.due(call.append(")").toString(), answer(name, a), want);
+    }
+
+    private static int twinTold(int what) {
+        return (int) twin.call("told", new int[] {what});
     }
 
     private static String drawName() {
@@ -64,7 +93,7 @@ public final class TwinTest {
     }
 
     private static int aThing() {
-        int n = x.told(1);
+        int n = twinTold(1);
         return draw.nextInt(25) == 0 ? number(-1, 7) : draw.nextInt(n);
     }
 
@@ -80,11 +109,16 @@ public final class TwinTest {
         int kind = draw.nextInt(40);
         if (kind == 0) return number(33, 126);
         if (kind < 8) return '.';
-        if (kind < 13) return '0' + draw.nextInt(Math.max(1, x.told(1)));
+        if (kind < 13) return '0' + draw.nextInt(Math.max(1, twinTold(1)));
         if (kind == 13) return '0' + draw.nextInt(10);
+        return aGuestSign();
+    }
+
+    /** Mostly one that there is. */
+    private static int aGuestSign() {
         for (int i = 0; i < 20; i++) {
             int g = draw.nextInt(4);
-            if ((x.told(2) >> g & 1) == 1) return 'A' + g;
+            if ((twinTold(2) >> g & 1) == 1) return 'A' + g;
         }
         return 'A' + draw.nextInt(4);
     }
@@ -92,8 +126,8 @@ public final class TwinTest {
     /** A sight that some guests of now may well have left. */
     private static int[] aSight() {
         int thing = aThing();
-        int left = x.state(thing, 0);
-        for (int i = draw.nextInt(3); i > 0; i--) left -= Math.max(1, x.told(101 + 100 * draw.nextInt(4)));
+        int left = Math.max(0, (int) twin.call("state", new int[] {thing, 0}));
+        for (int i = draw.nextInt(3); i > 0; i--) left -= Math.max(1, twinTold(101 + 100 * draw.nextInt(4)));
         if (draw.nextInt(5) == 0) left = number(0, 9);
         return new int[] {thing, draw.nextInt(30) == 0 ? left : Math.max(0, left)};
     }
@@ -109,7 +143,7 @@ public final class TwinTest {
             case "leave", "eats": return new int[] {aGuest()};
             case "say": return new int[] {aSign()};
             case "judge": return new int[] {number(0, 3)};
-            case "used": return new int[] {number(0, Math.max(0, x.told(0) - 1))};
+            case "used": return new int[] {number(0, Math.max(0, twinTold(0) - 1))};
             case "behind": return new int[] {aThing(), number(0, 3)};
             case "state": return new int[] {aThing(), number(0, 1)};
             case "seen": return aSight();
