@@ -65,9 +65,7 @@ public final class TwinTest {
         if (calls >= 512) return;
         calls++;
         long want = twin.call(name, a);
-        StringBuilder call = new StringBuilder("run " + run + ": " + name + "(");
-        for (int i = 0; i < a.length; i++) call.append(i == 0 ? "" : ", ").append(a[i]);
-        check.due(call.append(")").toString(), answer(name, a), want);
+        check.due("run " + run + ": " + Calls.told(name, a), Calls.on(x, name, a), want);
     }
 
     private static int twinTold(int what) {
@@ -158,40 +156,6 @@ public final class TwinTest {
             case "image", "restore": return new int[] {number(0, 1)};
             case "told": return new int[] {draw.nextBoolean() ? number(0, 80) : number(100, 410)};
             default: return new int[0];
-        }
-    }
-
-    private static long answer(String name, int[] a) {
-        switch (name) {
-            case "things": return x.things(a[0]);
-            case "thing": return x.thing(a[0], a[1], a[2]);
-            case "guest": return x.guest(a[0], a[1], a[2], a[3], a[4]);
-            case "leave": return x.leave(a[0]);
-            case "say": return x.say(a[0]);
-            case "wipe": return x.wipe();
-            case "fault": return x.fault();
-            case "judge": return x.judge(a[0]);
-            case "used": return x.used(a[0]);
-            case "behind": return x.behind(a[0], a[1]);
-            case "done": return x.done();
-            case "state": return x.state(a[0], a[1]);
-            case "eats": return x.eats(a[0]);
-            case "seen": return x.seen(a[0], a[1]);
-            case "forget": return x.forget();
-            case "rows": return x.rows(a[0], a[1]);
-            case "cup": return x.cup(a[0], a[1]);
-            case "look": return x.look(a[0], a[1]);
-            case "belief": return x.belief(a[0], a[1], a[2]);
-            case "alike": return x.alike(a[0]);
-            case "lay": return x.lay(a[0]);
-            case "hide": return x.hide();
-            case "trace": return x.trace();
-            case "lock": return x.lock(a[0], a[1]);
-            case "year": return x.year(a[0], a[1], a[2]);
-            case "image": return x.image(a[0]);
-            case "restore": return x.restore(a[0]);
-            case "told": return x.told(a[0]);
-            default: throw new IllegalArgumentException(name);
         }
     }
 }
