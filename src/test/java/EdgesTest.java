@@ -4,8 +4,8 @@ import java.util.List;
 
 /**
  * In some scenes every call is made with every number at, below and above its edges, in all their combinations (of the
- * five numbers of guest in some, as all are too many). The class must answer as its plain twin does; who is refused, or only asks, must leave all as it is, and who changes
- * something must leave just what the twin tells then.
+ * five numbers of guest in some, as all are too many). The class must answer as its plain twin does; who is refused, or
+ * only asks, must leave all as it is, and who changes something must leave just what the twin tells then.
  */
 public final class EdgesTest {
     private static final int MIN = Integer.MIN_VALUE, MAX = Integer.MAX_VALUE;
