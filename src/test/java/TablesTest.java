@@ -14,6 +14,7 @@ public final class TablesTest {
         year();
         yearRefused();
         images();
+        imagesRestored();
         told();
         constants();
         c.end();
@@ -342,9 +343,8 @@ public final class TablesTest {
         c.due("26 what -1", x.year(0, 1, -1), -2);
     }
 
-    private static void images() {
+    private static SevenPlates laidTable() {
         SevenPlates x = new SevenPlates();
-        c.due("28 was not kept", x.restore(0), -3);
         x.things(5);
         x.guest(1, 2, 3, 0, 5);
         x.guest(2, 6, 7, 1, 9);
@@ -355,11 +355,26 @@ public final class TablesTest {
         x.done();
         x.seen(0, 7);
         x.say('B');
-        int[] before = picture(x);
+        return x;
+    }
+
+    private static void images() {
+        int[] before = picture(laidTable());
+        SevenPlates x = laidTable();
+        c.due("28 was not kept", x.restore(0), -3);
         c.due("27 kept", x.image(1), 1);
         c.due("28 the other was not", x.restore(0), -3);
         same("27 nothing changes", x, before);
+        c.due("27 image(2)", x.image(2), -2);
+        c.due("27 image(-1)", x.image(-1), -2);
+        c.due("28 restore(2)", x.restore(2), -2);
+        c.due("28 restore(-1)", x.restore(-1), -2);
+    }
 
+    private static void imagesRestored() {
+        int[] before = picture(laidTable());
+        SevenPlates x = laidTable();
+        x.image(1);
         x.image(0);
         x.things(7);
         x.leave(1);
@@ -382,10 +397,6 @@ public final class TablesTest {
         c.due("28 the other, kept anew", x.restore(0), 1);
         other[0] = 0;
         same("28 the other", x, other);
-        c.due("27 image(2)", x.image(2), -2);
-        c.due("27 image(-1)", x.image(-1), -2);
-        c.due("28 restore(2)", x.restore(2), -2);
-        c.due("28 restore(-1)", x.restore(-1), -2);
     }
 
     /** All that is told, from 0 to 76 and of all guests. */

@@ -206,8 +206,9 @@ public final class ThingsTest {
         c.due("8 all these can stand", x.fault(), -6);
         for (char sign = 33; sign < 127; sign++) {
             boolean can = "ABCD.0123456".indexOf(sign) >= 0;
-            Check.tell(x, ".A" + sign + "!");
-            c.due("8 " + sign, x.fault(), can ? 3 : 2);
+            SevenPlates other = new SevenPlates();
+            Check.tell(other, ".A" + sign + "!");
+            c.due("8 " + sign, other.fault(), can ? 3 : 2);
         }
         Check.tell(x, "012");
         x.things(2);
